@@ -1,4 +1,3 @@
-import java.util.Arrays;
 import java.util.NoSuchElementException;
 
 public final class BargeBasin {
@@ -719,7 +718,9 @@ public final class BargeBasin {
     final int[] carried = new int[SIDE];
 
     void tearAll() {
-      Arrays.fill(sort, NO_SORT);
+      for (int y = 0; y < SIDE; y++) {
+        tearOff(y);
+      }
     }
 
     void tearOff(int y) {
@@ -733,7 +734,9 @@ public final class BargeBasin {
     void lay(int y, int newSort, int many) {
       sort[y] = newSort;
       size[y] = many;
-      Arrays.fill(numbers, SIDE * y, SIDE * y + SIDE, 0);
+      for (int x = 0; x < SIDE; x++) {
+        write(y, x, 0);
+      }
     }
 
     int number(int y, int x) {
@@ -970,17 +973,14 @@ public final class BargeBasin {
       taken |= fieldsOf(b);
     }
 
-    boolean goes(int b, int direction) {
-      return !isBound(kind[b]) || across[b] == ((direction & 1) == 0);
-    }
-
     /**
      * Why a barge can't step on from a place (0: it can). Back: whether it could have come to this
      * place by a step from the one in that direction. Only a moored one tells the two apart: it has
      * to be alone where the step begins.
      */
     int hindrance(int b, int from, int direction, boolean back) {
-      if (!goes(b, direction)) {
+      boolean upOrDown = (direction & 1) == 0;
+      if (isBound(kind[b]) && across[b] != upOrDown) {
         return 1;
       }
       int x = (from & 7) + STEP_X[direction];
@@ -1257,6 +1257,7 @@ public final class BargeBasin {
     final long[] high = new long[MOST];
     /** A stand's number and one more, where its hash or a slot behind it says; 0: free. */
     final int[] slots = new int[SLOTS];
+    final int[] slotFor = new int[MOST];
     final int[] distance = new int[MOST];
     final int[] queue = new int[MOST];
     final long[] ways = new long[MOST];
@@ -1266,10 +1267,8 @@ public final class BargeBasin {
 
     /** False if there are too many stands. */
     boolean explore(Chart from) {
+      clear();
       board.copyFrom(from);
-      Arrays.fill(slots, 0);
-      found = 0;
-      spent = false;
       long startLow = 0;
       long startHigh = 0;
       for (int b = 0; b < board.barges; b++) {
@@ -1281,6 +1280,15 @@ public final class BargeBasin {
         goOnFrom(at);
       }
       return !spent;
+    }
+
+    /** Frees the slots that were taken: mostly there are far fewer than all. */
+    private void clear() {
+      for (int at = 0; at < found; at++) {
+        slots[slotFor[at]] = 0;
+      }
+      found = 0;
+      spent = false;
     }
 
     private void goOnFrom(int at) {
@@ -1307,6 +1315,7 @@ public final class BargeBasin {
       }
       low[found] = newLow;
       high[found] = newHigh;
+      slotFor[found] = slot;
       found++;
       slots[slot] = found;
     }
@@ -1446,7 +1455,9 @@ public final class BargeBasin {
 
     /** How many fewest plans have no move of this barge, at most MOST_PLANS. */
     long plansWithout(int barge) {
-      Arrays.fill(ways, 0, found, 0L);
+      for (int at = 0; at < found; at++) {
+        ways[at] = 0;
+      }
       ways[0] = 1;
       queue[0] = 0;
       queued = 1;

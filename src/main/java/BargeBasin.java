@@ -292,11 +292,13 @@ public final class BargeBasin {
   // ---- plans
 
   public int fewest() {
-    return searchPlan(false);
+    int fault = faultOfSearch(false, false);
+    return fault != FINE ? refuse(fault) : answer(searcher().writePlan(planToKeep(), false));
   }
 
   public int fewestSteps() {
-    return searchPlan(true);
+    int fault = faultOfSearch(true, false);
+    return fault != FINE ? refuse(fault) : answer(searcher().writePlan(planToKeep(), true));
   }
 
   public int planned(int k, int what) {
@@ -336,7 +338,7 @@ public final class BargeBasin {
   }
 
   public long all() {
-    int fault = faultOfPlans();
+    int fault = faultOfSearch(false, false);
     if (fault != FINE) {
       return refuse(fault);
     }
@@ -351,7 +353,7 @@ public final class BargeBasin {
   public int must(int barge) {
     int fault = faultOfBarge(barge);
     if (fault == FINE) {
-      fault = faultOfPlans();
+      fault = faultOfSearch(false, false);
     }
     if (fault != FINE) {
       return refuse(fault);
@@ -374,12 +376,12 @@ public final class BargeBasin {
   }
 
   public int far() {
-    int fault = faultOfHardest();
+    int fault = faultOfSearch(false, true);
     return fault != FINE ? refuse(fault) : answer(searcher().farthest());
   }
 
   public boolean go() {
-    int fault = faultOfHardest();
+    int fault = faultOfSearch(false, true);
     if (fault != FINE) {
       return deny(fault);
     }
@@ -410,7 +412,7 @@ public final class BargeBasin {
   }
 
   public int trim() {
-    int fault = faultOfHardest();
+    int fault = faultOfSearch(false, true);
     if (fault != FINE) {
       return refuse(fault);
     }
@@ -594,8 +596,11 @@ public final class BargeBasin {
     return barge < 0 || barge >= chart.barges ? NO_SUCH : FINE;
   }
 
-  /** Where it is FINE, the search holds how far each stand is from being freed. */
-  private int faultOfPlans() {
+  /**
+   * Where it is FINE, the search holds how far each stand is from being freed, in moves or in single
+   * steps, and the stand that is can be freed, or, of all that can be come to, one can.
+   */
+  private int faultOfSearch(boolean single, boolean ofAll) {
     if (hasNoBasin()) {
       return NO_BASIN;
     }
@@ -603,21 +608,9 @@ public final class BargeBasin {
     if (!stands.explore(chart)) {
       return SPENT;
     }
-    stands.measure(false);
-    return stands.farOf(0) < 0 ? NOTHING_THERE : FINE;
-  }
-
-  /** Where it is FINE, the search has a hardest stand. */
-  private int faultOfHardest() {
-    if (hasNoBasin()) {
-      return NO_BASIN;
-    }
-    Search stands = searcher();
-    if (!stands.explore(chart)) {
-      return SPENT;
-    }
-    stands.measure(false);
-    return stands.hardest() < 0 ? NOTHING_THERE : FINE;
+    stands.measure(single);
+    int far = ofAll ? stands.farthest() : stands.farOf(0);
+    return far < 0 ? NOTHING_THERE : FINE;
   }
 
   private static boolean isBound(int kind) {
@@ -679,23 +672,11 @@ public final class BargeBasin {
     return search;
   }
 
-  private int searchPlan(boolean single) {
-    if (hasNoBasin()) {
-      return refuse(NO_BASIN);
-    }
-    Search stands = searcher();
-    if (!stands.explore(chart)) {
-      return refuse(SPENT);
-    }
-    stands.measure(single);
-    if (stands.farOf(0) < 0) {
-      return refuse(NOTHING_THERE);
-    }
+  private Plan planToKeep() {
     if (plan == null) {
       plan = new Plan();
     }
-    stands.writePlan(plan, single);
-    return answer(plan.size);
+    return plan;
   }
 
   /** Of the trial basin; one that is spent, or that can't be freed, is not. */
@@ -1258,6 +1239,7 @@ public final class BargeBasin {
     /** A stand's number and one more, where its hash or a slot behind it says; 0: free. */
     final int[] slots = new int[SLOTS];
     final int[] slotFor = new int[MOST];
+    final int[] moves = new int[MOST_BARGES * DIRECTIONS * MOST_STEPS];
     final int[] distance = new int[MOST];
     final int[] queue = new int[MOST];
     final long[] ways = new long[MOST];
@@ -1269,15 +1251,12 @@ public final class BargeBasin {
     boolean explore(Chart from) {
       clear();
       board.copyFrom(from);
-      long startLow = 0;
-      long startHigh = 0;
-      for (int b = 0; b < board.barges; b++) {
-        startLow += inLow(b, board.place[b]);
-        startHigh += inHigh(b, board.place[b]);
-      }
-      meet(startLow, startHigh);
+      meetStart();
       for (int at = 0; at < found && !spent; at++) {
-        goOnFrom(at);
+        int many = listMoves(at, MOST_STEPS, false);
+        for (int i = 0; i < many; i++) {
+          meet(lowAfter(at, moves[i]), highAfter(at, moves[i]));
+        }
       }
       return !spent;
     }
@@ -1291,17 +1270,14 @@ public final class BargeBasin {
       spent = false;
     }
 
-    private void goOnFrom(int at) {
-      load(at);
+    private void meetStart() {
+      long startLow = 0;
+      long startHigh = 0;
       for (int b = 0; b < board.barges; b++) {
-        for (int d = 0; d < DIRECTIONS; d++) {
-          int steps = board.stepsFrom(b, d, false);
-          for (int k = 1; k <= steps; k++) {
-            int by = k * STEP[d];
-            meet(low[at] + inLow(b, by), high[at] + inHigh(b, by));
-          }
-        }
+        startLow += inLow(b, board.place[b]);
+        startHigh += inHigh(b, board.place[b]);
       }
+      meet(startLow, startHigh);
     }
 
     private void meet(long newLow, long newHigh) {
@@ -1320,6 +1296,8 @@ public final class BargeBasin {
       slots[slot] = found;
     }
 
+    // ---- stands
+
     private static long inLow(int b, int fields) {
       return b < HALF ? (long) fields << (BITS * b) : 0L;
     }
@@ -1328,6 +1306,15 @@ public final class BargeBasin {
       return b < HALF ? 0L : (long) fields << (BITS * (b - HALF));
     }
 
+    private long lowAfter(int at, int move) {
+      return low[at] + inLow(bargeOf(move), stepsOf(move) * STEP[directionOf(move)]);
+    }
+
+    private long highAfter(int at, int move) {
+      return high[at] + inHigh(bargeOf(move), stepsOf(move) * STEP[directionOf(move)]);
+    }
+
+    /** Where a stand is, or else where it would come to; the slots are never all taken. */
     private int slotOf(long aLow, long aHigh) {
       long mixed = ((aLow * MIX_LOW) ^ aHigh) * MIX_HIGH;
       int slot = (int) (mixed >>> 50);
@@ -1341,19 +1328,9 @@ public final class BargeBasin {
       return slot;
     }
 
-    /** The stand in which a barge lies so many steps further, or NONE. */
-    private int beyond(int at, int b, int d, int k) {
-      int by = k * STEP[d];
-      return slots[slotOf(low[at] + inLow(b, by), high[at] + inHigh(b, by))] - 1;
-    }
-
-    private int placeIn(int at, int b) {
-      long bits = b < HALF ? low[at] >>> (BITS * b) : high[at] >>> (BITS * (b - HALF));
-      return (int) (bits & 63L);
-    }
-
-    private void load(int at) {
-      layOut(at, board);
+    /** The stand that a move leads to, or NONE. */
+    private int after(int at, int move) {
+      return slots[slotOf(lowAfter(at, move), highAfter(at, move))] - 1;
     }
 
     void layOut(int at, Chart chart) {
@@ -1362,36 +1339,48 @@ public final class BargeBasin {
       }
       chart.taken = 0;
       for (int b = 0; b < chart.barges; b++) {
-        chart.place[b] = placeIn(at, b);
+        long bits = b < HALF ? low[at] >>> (BITS * b) : high[at] >>> (BITS * (b - HALF));
+        chart.place[b] = (int) (bits & 63L);
         chart.taken |= chart.fieldsOf(b);
       }
     }
+
+    /** Writes down, in order, the moves from a stand, or the ways back to it: how many. */
+    private int listMoves(int at, int mostSteps, boolean back) {
+      layOut(at, board);
+      int many = 0;
+      for (int b = 0; b < board.barges; b++) {
+        for (int d = 0; d < DIRECTIONS; d++) {
+          int steps = Math.min(mostSteps, board.stepsFrom(b, d, back));
+          for (int k = 1; k <= steps; k++) {
+            moves[many] = moveOf(b, d, k);
+            many++;
+          }
+        }
+      }
+      return many;
+    }
+
+    // ---- how far they are from being freed
 
     /** For each stand the fewest moves, or single steps, to one that is freed. */
     void measure(boolean single) {
       queued = 0;
       for (int at = 0; at < found; at++) {
-        load(at);
+        layOut(at, board);
         distance[at] = NONE;
         if (board.isFreed()) {
           enqueue(at, 0);
         }
       }
       for (int i = 0; i < queued; i++) {
-        goBackFrom(queue[i], single ? 1 : MOST_STEPS);
-      }
-    }
-
-    private void goBackFrom(int at, int most) {
-      load(at);
-      for (int b = 0; b < board.barges; b++) {
-        for (int d = 0; d < DIRECTIONS; d++) {
-          int steps = Math.min(most, board.stepsFrom(b, d, true));
-          for (int k = 1; k <= steps; k++) {
-            int from = beyond(at, b, d, k);
-            if (from >= 0 && distance[from] < 0) {
-              enqueue(from, distance[at] + 1);
-            }
+        int at = queue[i];
+        int many = listMoves(at, single ? 1 : MOST_STEPS, true);
+        for (int k = 0; k < many; k++) {
+          // Ways back may come from stands that can't be come to.
+          int from = after(at, moves[k]);
+          if (from >= 0 && distance[from] < 0) {
+            enqueue(from, distance[at] + 1);
           }
         }
       }
@@ -1425,32 +1414,29 @@ public final class BargeBasin {
       return farOf(hardest());
     }
 
-    void writePlan(Plan plan, boolean single) {
+    // ---- plans
+
+    /** The first of the plans from stand 0 on, as it was measured: how many moves. */
+    int writePlan(Plan plan, boolean single) {
       plan.size = 0;
       int at = 0;
-      for (int left = farOf(0); left > 0; left--) {
-        int move = firstNearer(at, single ? 1 : MOST_STEPS);
-        if (move < 0) {
-          return;
-        }
+      for (int left = farOf(0) - 1; left >= 0 && at >= 0; left--) {
+        int move = firstTo(at, left, single ? 1 : MOST_STEPS);
         plan.add(move);
-        at = beyond(at, bargeOf(move), directionOf(move), stepsOf(move));
+        at = after(at, move);
       }
+      return plan.size;
     }
 
-    private int firstNearer(int at, int most) {
-      load(at);
-      for (int b = 0; b < board.barges; b++) {
-        for (int d = 0; d < DIRECTIONS; d++) {
-          int steps = Math.min(most, board.stepsFrom(b, d, false));
-          for (int k = 1; k <= steps; k++) {
-            if (farOf(beyond(at, b, d, k)) == distance[at] - 1) {
-              return moveOf(b, d, k);
-            }
-          }
+    /** The first move from a stand to one that is so far; 0, which is no move, if there is none. */
+    private int firstTo(int at, int far, int mostSteps) {
+      int many = listMoves(at, mostSteps, false);
+      for (int i = 0; i < many; i++) {
+        if (farOf(after(at, moves[i])) == far) {
+          return moves[i];
         }
       }
-      return NONE;
+      return 0;
     }
 
     /** How many fewest plans have no move of this barge, at most MOST_PLANS. */
@@ -1458,9 +1444,8 @@ public final class BargeBasin {
       for (int at = 0; at < found; at++) {
         ways[at] = 0;
       }
-      ways[0] = 1;
-      queue[0] = 0;
-      queued = 1;
+      queued = 0;
+      addWays(0, 1);
       long plans = 0;
       for (int i = 0; i < queued; i++) {
         int at = queue[i];
@@ -1473,18 +1458,13 @@ public final class BargeBasin {
       return plans;
     }
 
-    /** The ways to a stand lead on to each nearer one; nearer ones come later in the queue. */
+    /** The ways to a stand lead on to each nearer one; these come later in the queue. */
     private void handOn(int at, int but) {
-      load(at);
-      for (int b = 0; b < board.barges; b++) {
-        for (int d = 0; d < DIRECTIONS && b != but; d++) {
-          int steps = board.stepsFrom(b, d, false);
-          for (int k = 1; k <= steps; k++) {
-            int to = beyond(at, b, d, k);
-            if (to >= 0 && distance[to] == distance[at] - 1) {
-              addWays(to, ways[at]);
-            }
-          }
+      int many = listMoves(at, MOST_STEPS, false);
+      for (int i = 0; i < many; i++) {
+        int to = after(at, moves[i]);
+        if (to >= 0 && bargeOf(moves[i]) != but && distance[to] == distance[at] - 1) {
+          addWays(to, ways[at]);
         }
       }
     }

@@ -775,6 +775,35 @@ public final class BasinPromises {
     is(x.count(5), 1);
     no(x.fewest(), 10);
     moored();
+    crowd();
+  }
+
+  /** Twelve barges, the last of which have to move. */
+  private static void crowd() {
+    fresh(8, 8);
+    walls("######## ######## ######## ######## ######## ######## ........ ...#.#..");
+    for (int i = 0; i < 8; i++) {
+      wall(i, 5);
+      yes(x.set(4, i, 0));
+    }
+    for (int i = 0; i < 8; i++) {
+      is(x.barge(2, i, 4, 1, false), i);
+    }
+    is(x.barge(2, 4, 6, 1, false), 8);
+    is(x.barge(2, 7, 6, 1, false), 9);
+    is(x.barge(5, 0, 6, 2, false), 10);
+    yes(x.gate(10, 6, 6));
+    is(x.fewest(), 3);
+    plan(8, 2, 1, 9, 2, 1, 10, 1, 6);
+    // either tug may go first
+    is(x.all(), 2);
+    is(x.must(7), 0);
+    for (int b = 8; b < 11; b++) {
+      is(x.must(b), 1);
+    }
+    is(x.fewestSteps(), 8);
+    is(x.follow(0, 8), 8);
+    looks("######## ######## ######## ######## abcdefgh ######## ......KK ...#i#.j");
   }
 
   /** A moored one that comes to lie beside another can't go on: moves have no way back. */
@@ -897,6 +926,7 @@ public final class BasinPromises {
     yes(x.basin(4, 4));
     is(x.follow(0, 3), 0);
     is(x.barge(2, 0, 0, 1, false), 0);
+    is(x.follow(0, 1), 0);
     is(x.barge(1, 2, 1, 2, false), 1);
     is(x.follow(0, 3), 0);
     is(x.follow(2, 1), 1);
@@ -1116,6 +1146,11 @@ public final class BasinPromises {
       fresh(3 + seed % 6, 8 - seed % 5);
       wall(seed % 3, seed % 4);
       made(seed, 1 + seed % 12);
+    }
+    // so narrow that many are left out at last
+    for (int seed = 0; seed < 60; seed++) {
+      fresh(4, 3);
+      made(seed, 12);
     }
   }
 
@@ -1407,6 +1442,15 @@ public final class BasinPromises {
     yes(x.keep(0));
     yes(x.turn(false));
     is(x.same(0), 1);
+    // with nothing in them, they differ in their sides alone
+    yes(x.basin(4, 5));
+    yes(x.keep(0));
+    yes(x.basin(4, 4));
+    is(x.same(0), 0);
+    yes(x.basin(5, 5));
+    is(x.same(0), 0);
+    yes(x.basin(5, 4));
+    is(x.same(0), 2);
     // one that is not freed is another than one that is
     yes(x.basin(3, 3));
     is(x.barge(5, 0, 0, 2, false), 0);

@@ -960,6 +960,27 @@ public final class BasinPromises {
     is(x.fewest(), 3);
     is(x.all(), 9);
     manyPlans();
+    tooManyPlans();
+  }
+
+  /** No basin with so many plans is known here, so the sum itself is looked at. */
+  private static void tooManyPlans() {
+    long most = 1L << 62;
+    due("a sum below", sum(most - 2, 1), most - 1);
+    due("a sum that is it", sum(most - 1, 1), most);
+    due("a sum above", sum(most, most), most);
+    due("a sum above", sum(most - 1, most - 1), most);
+  }
+
+  private static long sum(long a, long b) {
+    try {
+      java.lang.reflect.Method capped = Class.forName("BargeBasin$Search")
+          .getDeclaredMethod("capped", long.class, long.class);
+      capped.setAccessible(true);
+      return (Long) capped.invoke(null, a, b);
+    } catch (ReflectiveOperationException e) {
+      return -1;
+    }
   }
 
   /** A row of moves that are free of one another: their orders are counted. */

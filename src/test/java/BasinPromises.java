@@ -540,6 +540,14 @@ public final class BasinPromises {
     }
     is(x.room(5, 2), 0);
     is(x.room(5, 0), 1);
+    // the end of one row is not beside the beginning of the next
+    fresh(8, 4);
+    is(x.barge(4, 0, 1, 1, false), 0);
+    is(x.barge(4, 7, 2, 1, false), 1);
+    is(x.barge(2, 7, 0, 1, false), 2);
+    is(x.barge(2, 0, 3, 1, false), 3);
+    is(x.room(0, 1), 7);
+    is(x.room(1, 3), 7);
   }
 
   private static void promise16() {
@@ -932,6 +940,12 @@ public final class BasinPromises {
     is(x.follow(2, 1), 1);
     looks("..a. ..bb .... ....");
     is(x.follow(1, 1), 0);
+    lock();
+    is(x.fewest(), 3);
+    yes(x.lift(2));
+    yes(x.lift(1));
+    is(x.follow(0, 1), 0);
+    looks(".... AA.. .... ....");
   }
 
   private static void promise24() {
@@ -1260,6 +1274,21 @@ public final class BasinPromises {
     looks("...c. AAb.. ..b.. .....");
     no(x.undo(), 11);
     is(x.far(), 3);
+    // the tug has to leave the row by a corner; without a wall beside (3, 1) it would be nearer
+    fresh(5, 3);
+    walls("####. ..... #####");
+    yes(x.line(1, 2, 5));
+    is(x.barge(5, 0, 1, 2, false), 0);
+    yes(x.gate(0, 3, 1));
+    is(x.barge(2, 2, 1, 1, false), 1);
+    is(x.far(), 3);
+    is(x.trim(), 7);
+    looks("...#. AAb.. ...#.");
+    is(x.get(0, 3), 1);
+    is(x.get(0, 2), 0);
+    yes(x.set(1, 4, 300));
+    is(x.get(1, 4), 44);
+    no(x.get(1, 5), 4);
     // only walls, or none, tell whether lines are laid anew
     lock();
     yes(x.line(3, 1, 4));

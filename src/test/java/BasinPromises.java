@@ -323,6 +323,16 @@ public final class BasinPromises {
     yes(x.carry(0, 1, 2, 1, 3));
     looks(".#### ###.# .###a .....");
     is(x.count(6), 0);
+    // a whole line
+    fresh(8, 3);
+    yes(x.line(0, 2, 8));
+    yes(x.line(2, 2, 8));
+    yes(x.set(0, 0, -9));
+    yes(x.set(0, 7, 9));
+    yes(x.carry(0, 0, 2, 0, 8));
+    looks("#......# ........ #......#");
+    is(x.get(2, 0), -9);
+    no(x.carry(0, 0, 2, 0, 9), 4);
   }
 
   private static void promise8() {
@@ -441,6 +451,38 @@ public final class BasinPromises {
     yes(x.lift(1));
     looks(".AA. .... ....");
     is(x.barge(2, 2, 1, 1, false), 1);
+    // a red one that is gone is away from its gate no more
+    is(x.barge(5, 0, 2, 2, false), 2);
+    yes(x.gate(0, 1, 0));
+    yes(x.gate(2, 2, 2));
+    is(x.count(5), 0);
+    is(x.low(), 1);
+    yes(x.lift(2));
+    is(x.count(5), 1);
+    is(x.low(), 0);
+    twelve();
+  }
+
+  /** As many barges as there can be, all red, in columns of four. */
+  private static void twelve() {
+    fresh(8, 6);
+    for (int i = 0; i < 12; i++) {
+      is(x.barge(5, i < 8 ? i : i - 8, i < 8 ? 0 : 3, 2, true), i);
+    }
+    yes(x.gate(11, 3, 4));
+    is(x.low(), 1);
+    is(x.count(5), 0);
+    yes(x.keep(0));
+    yes(x.turn(true));
+    looks("HGFEDCBA HGFEDCBA ........ ....LKJI ....LKJI ........");
+    yes(x.turn(false));
+    looks("....HH ....GG ....FF ....EE .LL.DD .KK.CC .JJ.BB .II.AA");
+    is(x.same(0), 2);
+    is(x.lies(11, 5), 0);
+    is(x.lies(11, 6), 4);
+    yes(x.lift(0));
+    looks("....GG ....FF ....EE ....DD .KK.CC .JJ.BB .II.AA .HH...");
+    is(x.count(2), 11);
   }
 
   private static void promise12() {

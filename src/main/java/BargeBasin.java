@@ -147,7 +147,7 @@ public final class BargeBasin {
     if (hasNoBasin()) {
       return refuse(NO_BASIN);
     }
-    if (!isLengthOf(kind, length)) {
+    if (!isLengthOf(kind, length) || isNoField(x, y)) {
       return refuse(NO_SUCH);
     }
     boolean down = across && isBound(kind);
@@ -166,6 +166,9 @@ public final class BargeBasin {
     int fault = faultOfBarge(barge);
     if (fault != FINE) {
       return deny(fault);
+    }
+    if (isNoField(x, y)) {
+      return deny(NO_SUCH);
     }
     if (chart.kind[barge] != KIND_RED) {
       return deny(OTHER_KIND);
@@ -204,7 +207,7 @@ public final class BargeBasin {
     if (hasNoBasin()) {
       return refuse(NO_BASIN);
     }
-    if (x < 0 || x >= chart.width || y < 0 || y >= chart.height) {
+    if (isNoField(x, y)) {
       return refuse(NO_SUCH);
     }
     return answer(chart.signAt(x, y));
@@ -550,6 +553,10 @@ public final class BargeBasin {
 
   private boolean isNoLine(int y) {
     return y < 0 || y >= chart.height;
+  }
+
+  private boolean isNoField(int x, int y) {
+    return x < 0 || x >= chart.width || isNoLine(y);
   }
 
   private int faultOfLine(int y) {

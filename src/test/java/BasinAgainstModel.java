@@ -54,8 +54,10 @@ public final class BasinAgainstModel {
   /** Width, height, walls and ships: all that two basins can differ in. */
   private record Water(int w, int h, Set<Integer> walls, List<Ship> ships) {
     boolean in(int c) {
-      int x = c % 1000 - 100;
-      int y = c / 1000 - 100;
+      return hasField(c % 1000 - 100, c / 1000 - 100);
+    }
+
+    boolean hasField(int x, int y) {
       return x >= 0 && x < w && y >= 0 && y < h;
     }
 
@@ -468,7 +470,7 @@ public final class BasinAgainstModel {
       }
       boolean rightLength = kind == 1 || kind == 5 ? len >= 2 && len <= 4
           : kind == 2 || kind == 4 ? len == 1 : kind == 3 && len == 2;
-      if (!rightLength) {
+      if (!rightLength || !water.hasField(x, y)) {
         return no(2);
       }
       Ship s = new Ship(kind, x, y, len, across && (kind == 1 || kind == 5), x, y);
@@ -484,7 +486,7 @@ public final class BasinAgainstModel {
     }
 
     boolean gate(int b, int x, int y) {
-      if (water == null || !ship(b)) {
+      if (water == null || !ship(b) || !water.hasField(x, y)) {
         return bad(water == null ? 1 : 2);
       }
       Ship s = water.ships.get(b);
@@ -492,9 +494,6 @@ public final class BasinAgainstModel {
         return bad(5);
       }
       if (s.across ? x != s.x : y != s.y) {
-        return bad(7);
-      }
-      if (x < 0 || y < 0 || x > 8 || y > 8) {
         return bad(7);
       }
       for (int c : s.at(x, y).cells()) {
@@ -538,7 +537,7 @@ public final class BasinAgainstModel {
       if (water == null) {
         return no(1);
       }
-      return x < 0 || y < 0 || x >= water.w || y >= water.h ? no(2) : yes(sign(x, y));
+      return water.hasField(x, y) ? yes(sign(x, y)) : no(2);
     }
 
     int count(int what) {

@@ -362,16 +362,19 @@ public final class BasinPromises {
     no(x.barge(4, 0, 0, 0, false), 2);
     no(x.barge(5, 0, 0, 1, true), 2);
     no(x.barge(5, 9, 9, 5, true), 2);
-    no(x.barge(1, -1, 0, 2, false), 7);
-    no(x.barge(1, 0, -1, 2, true), 7);
+    no(x.barge(1, -1, 0, 2, false), 2);
+    no(x.barge(1, 0, -1, 2, true), 2);
+    no(x.barge(2, 6, 0, 1, false), 2);
+    no(x.barge(2, 0, 6, 1, false), 2);
+    no(x.barge(1, MAX, MAX, 4, false), 2);
+    no(x.barge(3, MIN, MIN, 2, false), 2);
     no(x.barge(1, 5, 0, 2, false), 7);
     no(x.barge(1, 0, 5, 2, true), 7);
-    no(x.barge(2, 6, 0, 1, false), 7);
-    no(x.barge(2, 0, 6, 1, false), 7);
     no(x.barge(3, 5, 0, 2, false), 7);
     no(x.barge(3, 0, 5, 2, false), 7);
-    no(x.barge(1, MAX, MAX, 4, false), 7);
-    no(x.barge(3, MIN, MIN, 2, false), 7);
+    no(x.barge(5, 5, 5, 4, true), 7);
+    placesRoundABasin();
+    fresh(6, 6);
     is(x.barge(1, 0, 0, 4, false), 0);
     is(x.barge(1, 5, 2, 4, true), 1);
     is(x.barge(3, 0, 1, 2, true), 2);
@@ -396,6 +399,27 @@ public final class BasinPromises {
     looks("aaaa.. ccdE.. cc.E.b ...E.b jkl..b #fghib");
   }
 
+  /** No FIELD is there, so it is 2 ahead of 7; once wider than high, once higher than wide. */
+  private static void placesRoundABasin() {
+    for (int turns = 0; turns < 2; turns++) {
+      int w = turns == 0 ? 4 : 3;
+      int h = 7 - w;
+      fresh(w, h);
+      for (int i = -1; i <= w; i++) {
+        for (int j = -1; j <= h; j++) {
+          if (i < 0 || i >= w || j < 0 || j >= h) {
+            no(x.barge(2, i, j, 1, false), 2);
+            no(x.barge(1, i, j, 2, true), 2);
+            no(x.barge(5, i, j, 3, false), 2);
+            no(x.barge(3, i, j, 2, false), 2);
+            no(x.barge(4, i, j, 1, false), 2);
+          }
+        }
+      }
+      is(x.count(2), 0);
+    }
+  }
+
   private static void promise10() {
     fresh(6, 4);
     is(x.barge(5, 1, 1, 3, false), 0);
@@ -404,14 +428,20 @@ public final class BasinPromises {
     no(x.gate(3, 0, 0), 2);
     no(x.gate(-1, 0, 0), 2);
     no(x.gate(2, 1, 3), 5);
-    no(x.gate(2, 99, 99), 5);
+    no(x.gate(2, 5, 0), 5);
+    no(x.gate(2, 99, 99), 2);
+    no(x.gate(2, 6, 3), 2);
     no(x.gate(0, 4, 1), 7);
-    no(x.gate(0, -1, 1), 7);
+    no(x.gate(0, 5, 1), 7);
+    no(x.gate(0, 6, 1), 2);
+    no(x.gate(0, -1, 1), 2);
     no(x.gate(0, 1, 2), 7);
-    no(x.gate(0, MAX, 1), 7);
+    no(x.gate(0, MAX, 1), 2);
     no(x.gate(1, 5, 3), 7);
+    no(x.gate(1, 5, 4), 2);
     no(x.gate(1, 4, 1), 7);
-    no(x.gate(1, 5, -1), 7);
+    no(x.gate(1, 5, -1), 2);
+    no(x.gate(1, 5, MIN), 2);
     is(x.count(5), 1);
     yes(x.slide(2, 1, 1));
     yes(x.gate(0, 3, 1));

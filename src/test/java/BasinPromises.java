@@ -1047,10 +1047,77 @@ public final class BasinPromises {
     is(x.all(), 9);
     manyPlans();
     tooManyPlans();
+    sumsOfPlans();
   }
 
-  /** No basin with so many plans is known here, so the sum itself is looked at. */
+  /**
+   * Tugs in a stair that have all to go on by five, for three red ones to come up behind them. The
+   * due numbers were counted by a program of its own with numbers of any size.
+   */
   private static void tooManyPlans() {
+    stair(7);
+    is(x.reach(), 2587);
+    is(x.all(), 30652662483245088L);
+    stair(8);
+    is(x.reach(), 3850);
+    is(x.fewest(), 43);
+    // 27138289995672495640, which is 65 bits, and so it stays with the one move that can be first
+    no(x.all(), 10);
+    is(x.follow(0, 1), 1);
+    no(x.all(), 10);
+    // 14705903316187374720: 64 bits
+    is(x.follow(1, 1), 1);
+    no(x.all(), 10);
+    // 5501133808513134792: 63 bits
+    is(x.follow(2, 1), 1);
+    no(x.all(), 10);
+    is(x.follow(3, 1), 1);
+    is(x.all(), 1529511947845264548L);
+    is(x.follow(4, 1), 1);
+    is(x.all(), 321265460828757588L);
+    for (int i = 0; i < 5; i++) {
+      yes(x.undo());
+    }
+    // only the stands are counted for these, and they are few enough
+    for (int b = 0; b < 11; b++) {
+      is(x.must(b), 1);
+    }
+    is(x.fewestSteps(), 45);
+    is(x.far(), 43);
+    stair(9);
+    is(x.reach(), 5553);
+    is(x.fewest(), 48);
+    no(x.all(), 10);
+    is(x.follow(0, 9), 9);
+    is(x.all(), 48480777744759360L);
+  }
+
+  /** Fields (0, 0), (1, 0), (1, 1), (2, 1) and so on, with so many tugs in the first of them. */
+  private static void stair(int tugs) {
+    fresh(8, 8);
+    for (int y = 0; y < 8; y++) {
+      yes(x.line(y, 0, 8));
+      for (int at = 0; at < 8; at++) {
+        boolean onStair = (at == y || at == y + 1) && at + y < tugs + 5;
+        boolean underStair = at < 3 && y > at && y <= at + (at == 0 ? 2 : 3);
+        if (!onStair && !underStair) {
+          yes(x.set(y, at, 1));
+        }
+      }
+    }
+    is(x.barge(5, 0, 1, 2, true), 0);
+    is(x.barge(5, 1, 2, 3, true), 1);
+    is(x.barge(5, 2, 3, 3, true), 2);
+    yes(x.gate(0, 0, 0));
+    yes(x.gate(1, 1, 0));
+    yes(x.gate(2, 2, 1));
+    for (int i = 0; i < tugs; i++) {
+      is(x.barge(2, (i + 1) / 2, i / 2, 1, false), 3 + i);
+    }
+  }
+
+  /** The very edge, which no basin known here comes to. */
+  private static void sumsOfPlans() {
     long most = 1L << 62;
     due("a sum below", sum(most - 2, 1), most - 1);
     due("a sum that is it", sum(most - 1, 1), most);

@@ -1259,7 +1259,7 @@ public final class BargeBasin {
       clear();
       board.copyFrom(from);
       meetStart();
-      for (int at = 0; at < found && !spent; at++) {
+      for (int at = 0; at < found && at < MOST && !spent; at++) {
         int many = listMoves(at, MOST_STEPS, false);
         for (int i = 0; i < many; i++) {
           meet(lowAfter(at, moves[i]), highAfter(at, moves[i]));
@@ -1380,7 +1380,7 @@ public final class BargeBasin {
           enqueue(at, 0);
         }
       }
-      for (int i = 0; i < queued; i++) {
+      for (int i = 0; i < queued && i < MOST; i++) {
         int at = queue[i];
         int many = listMoves(at, single ? 1 : MOST_STEPS, true);
         for (int k = 0; k < many; k++) {
@@ -1454,7 +1454,7 @@ public final class BargeBasin {
       queued = 0;
       addWays(0, 1);
       long plans = 0;
-      for (int i = 0; i < queued; i++) {
+      for (int i = 0; i < queued && i < MOST; i++) {
         int at = queue[i];
         if (distance[at] == 0) {
           plans = capped(plans, ways[at]);
